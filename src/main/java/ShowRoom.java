@@ -323,7 +323,7 @@ public final class ShowRoom {
             return refuseFar(NOBODY);
         }
         bench.attendOnly(look);
-        return tell(bench.brings(scene.judgeGets, scene.pay(judge)), bench.scale(), part);
+        return tell(bench.brings(scene.judgeGets, scene.pay(judge)), bench.unit(), part);
     }
 
     public long harm(int look, int part) {
@@ -337,9 +337,9 @@ public final class ShowRoom {
             return refuseFar(NOBODY);
         }
         bench.attendNone();
-        long unseen = bench.brings(scene.judgeGets, scene.judgeGets) * WHOLE;
+        long unseen = bench.brings(scene.judgeGets, scene.judgeGets);
         bench.attendOnly(look);
-        return tell(unseen - bench.brings(scene.judgeGets, scene.judgeGets), bench.scale(), part);
+        return tell(unseen - bench.brings(scene.judgeGets, scene.judgeGets), bench.unit(), part);
     }
 
     // ---- told thoughts
@@ -504,8 +504,8 @@ public final class ShowRoom {
         if (Integer.bitCount(set) > MOST_HEARD) {
             return refuseFar(ROOM);
         }
-        long net = market.bringsOf(set) - market.costOf(set) * market.unit();
-        return tell(net, market.unit(), part);
+        long net = market.bringsOf(set) - market.costOf(set) * bench.unit();
+        return tell(net, bench.unit(), part);
     }
 
     public int chosen() {
@@ -538,7 +538,7 @@ public final class ShowRoom {
         bench.attendOnly(a);
         long first = bench.brings(scene.judgeGets, scene.advocateGets);
         bench.attendOnly(b == -1 ? a : b);
-        return tell(first + bench.brings(scene.otherGets, scene.advocateGets), bench.scale(), part);
+        return tell(first + bench.brings(scene.otherGets, scene.advocateGets), bench.unit(), part);
     }
 
     public long knows(int look, int own, boolean judge, int part) {
@@ -553,7 +553,7 @@ public final class ShowRoom {
         }
         bench.attendOnly(look);
         bench.attend(own, 0);
-        return tell(bench.brings(scene.judgeGets, scene.pay(judge)), bench.scale(), part);
+        return tell(bench.brings(scene.judgeGets, scene.pay(judge)), bench.unit(), part);
     }
 
     public int rests(int first, int second, int what) {
@@ -599,7 +599,7 @@ public final class ShowRoom {
         if (!scene.hasLook(look)) {
             return refuseFar(NOBODY);
         }
-        return tell(silence.lostByJudge(look), scene.total * WHOLE, part);
+        return tell(silence.lostByJudge(look, silence.settle(look)), scene.total * WHOLE, part);
     }
 
     public long time(int a, int b, int c, int part) {
@@ -620,7 +620,7 @@ public final class ShowRoom {
         if (c != -1) {
             bench.attendTest(c);
         }
-        return tell(bench.bestRule(), bench.scale(), part);
+        return tell(bench.bestRule(), bench.unit(), part);
     }
 
     // ---- taking back, the image, counts
@@ -1137,13 +1137,9 @@ public final class ShowRoom {
             }
         }
 
-        int heard() {
-            return links;
-        }
-
-        /** What the sums of brings and bestRule are counted in. */
-        long scale() {
-            return scene.total * wholes(links);
+        /** What brings and bestRule count in: one for any number of looks, so that all compare. */
+        long unit() {
+            return scene.total * wholes(MOST_HEARD);
         }
 
         void lay(long a, long b, long c, long d) {
@@ -1233,22 +1229,24 @@ public final class ShowRoom {
         }
 
         int choose(int level, int[] judge) {
+            // With ties 1 the advocate's least is wanted, which is the greatest of the sums turned round.
+            int turn = scene.tie == 0 ? 1 : -1;
             int found = 0;
             long most = sumOf(level, judge, 0);
+            long side = turn * sumOf(level, scene.advocateGets, 0);
             for (int a = 1; a < scene.acts; a++) {
                 long mine = sumOf(level, judge, a);
-                if (mine > most || (mine == most && winsTie(level, a, found))) {
+                if (mine < most) {
+                    continue;
+                }
+                long mySide = turn * sumOf(level, scene.advocateGets, a);
+                if (mine > most || mySide > side) {
                     found = a;
                     most = mine;
+                    side = mySide;
                 }
             }
             return found;
-        }
-
-        private boolean winsTie(int level, int act, int against) {
-            long mine = sumOf(level, scene.advocateGets, act);
-            long other = sumOf(level, scene.advocateGets, against);
-            return scene.tie == 0 ? mine > other : mine < other;
         }
 
         long sumOf(int level, int[] pay, int act) {
@@ -1268,12 +1266,12 @@ public final class ShowRoom {
         /** What pay comes to, in all, if the judge with these gets hears all that is attended. */
         long brings(int[] judge, int[] pay) {
             layBefore();
-            return gather(0, judge, pay);
+            return gather(0, judge, pay) * wholes(MOST_HEARD - links);
         }
 
         private long gather(int level, int[] judge, int[] pay) {
             if (level >= links || level >= MOST_HEARD) {
-                return outcome(level, judge, pay);
+                return sumOf(level, pay, choose(level, judge));
             }
             int look = chain[level];
             long sum = 0;
@@ -1292,13 +1290,13 @@ public final class ShowRoom {
         }
 
         private long stopOrGo(int level) {
-            long unit = wholes(links - level);
-            long stop = outcome(level, scene.judgeGets, scene.advocateGets) * unit;
+            long rest = wholes(MOST_HEARD - level);
+            long stop = outcome(level, scene.judgeGets, scene.advocateGets) * rest;
             if (level >= links || level >= MOST_HEARD) {
                 return stop;
             }
             int look = chain[level];
-            long go = -costs[level] * mass(level) * unit;
+            long go = -costs[level] * mass(level) * rest;
             for (int s = 0; s < scene.signCount[look]; s++) {
                 if (step(level, look, s)) {
                     go += stopOrGo(level + 1);
@@ -1523,11 +1521,6 @@ public final class ShowRoom {
             this.bench = bench;
         }
 
-        /** One scale for all sets, so that sets of different size compare. */
-        long unit() {
-            return scene.total * wholes(MOST_HEARD);
-        }
-
         long bringsOf(int set) {
             bench.attendNone();
             for (int i = 0; i < scene.tests; i++) {
@@ -1535,11 +1528,7 @@ public final class ShowRoom {
                     bench.attendTest(i);
                 }
             }
-            return heardTogether();
-        }
-
-        private long heardTogether() {
-            return bench.brings(scene.judgeGets, scene.advocateGets) * wholes(MOST_HEARD - bench.heard());
+            return bench.brings(scene.judgeGets, scene.advocateGets);
         }
 
         int costOf(int set) {
@@ -1557,7 +1546,7 @@ public final class ShowRoom {
                 if (Integer.bitCount(set) > MOST_HEARD) {
                     continue;
                 }
-                long net = bringsOf(set) - costOf(set) * unit();
+                long net = bringsOf(set) - costOf(set) * bench.unit();
                 boolean fewer = Integer.bitCount(set) < Integer.bitCount(found);
                 if (net > most || (net == most && fewer)) {
                     found = set;
@@ -1572,7 +1561,7 @@ public final class ShowRoom {
             for (int set = 0; set < 1 << scene.tests; set++) {
                 // What could not be taken anyway isn't weighed, as weighing is dear.
                 if (Integer.bitCount(set) <= MOST_HEARD && (found == NONE || isCheaper(set, found))
-                        && bringsOf(set) * below >= above * unit()) {
+                        && bringsOf(set) * below >= above * bench.unit()) {
                     found = set;
                 }
             }
@@ -1607,7 +1596,7 @@ public final class ShowRoom {
             if (j > 0) {
                 bench.attendTest(j - 1);
             }
-            return heardTogether();
+            return bench.brings(scene.judgeGets, scene.advocateGets);
         }
 
         /** How many rests there are; the first one's choices are kept. */
@@ -1694,8 +1683,8 @@ public final class ShowRoom {
         }
 
         /** Signs that are shown bring the judge the same either way, so only silent ones count. */
-        long lostByJudge(int look) {
-            int silent = silentBits(look, settle(look));
+        long lostByJudge(int look, int open) {
+            int silent = silentBits(look, open);
             long apart = 0;
             for (int s = 0; s < scene.signCount[look]; s++) {
                 if ((silent >> s & 1) != 0 && bench.seeOne(look, s)) {

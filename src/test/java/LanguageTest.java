@@ -64,7 +64,7 @@ public final class LanguageTest {
         while (made.find()) {
             count++;
         }
-        // Whatever is made is made with the room: forty-one places in constructors and fields, none in a call.
+        // Whatever is made stands in a field's first value or in the constructor, never in a call.
         Matcher call = Pattern.compile("(?m)^ {8,}(?!(private )?final|\\w+ = new|this).*\\bnew\\b").matcher(bare);
         holds("objects are made with the room alone", count > 0 && !call.find());
         for (char c : source.toCharArray()) {
