@@ -1231,19 +1231,14 @@ public final class ShowRoom {
         int choose(int level, int[] judge) {
             // With ties 1 the advocate's least is wanted, which is the greatest of the sums turned round.
             int turn = scene.tie == 0 ? 1 : -1;
+            int[] side = scene.advocateGets;
             int found = 0;
             long most = sumOf(level, judge, 0);
-            long side = turn * sumOf(level, scene.advocateGets, 0);
             for (int a = 1; a < scene.acts; a++) {
                 long mine = sumOf(level, judge, a);
-                if (mine < most) {
-                    continue;
-                }
-                long mySide = turn * sumOf(level, scene.advocateGets, a);
-                if (mine > most || mySide > side) {
+                if (mine > most || (mine == most && turn * sumOf(level, side, a) > turn * sumOf(level, side, found))) {
                     found = a;
                     most = mine;
-                    side = mySide;
                 }
             }
             return found;

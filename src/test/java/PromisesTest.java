@@ -227,6 +227,7 @@ public final class PromisesTest {
         is("10 truth by truth", y.parts(0, 0, 5), 45);
         is("10 truth by truth", y.parts(0, 3, 5), 60);
         is("10 not 60", Due.look(y, 1, 60, 60, 59, 60), -3);
+        is("10 not 60 under the first", Due.look(Due.of(COURT), 1, 59, 60), -3);
         is("10 not 60 stays", y.count(5), 4);
         ShowRoom z = Due.of("t1;a1/1;");
         for (int i = 0; i < 12; i++) {
@@ -314,6 +315,8 @@ public final class PromisesTest {
             x.plain(0);
         }
         is("14 twelve", x.meld(0, 0, 1), -6);
+        is("12 twelve, within the bars", x.bar(1), -6);
+        is("13 twelve ahead of not whole", x.mix(0, 2, 5), -6);
     }
 
     // Promises 15 to 20
@@ -393,6 +396,10 @@ public final class PromisesTest {
         is("21 above", x.think(100, 1, 0, 0, 1), -6);
         is("21 share above", x.think(1, 1, 0, 0, 100), -6);
         is("21 of no truth", x.think(1, 0, 1, 0, 1), -6);
+        ShowRoom four = Due.of("t1;t1;t1;t1;a1/1,1/1,1/1,1/1;");
+        is("21 third above", four.think(1, 0, 100, 0, 1), -6);
+        is("21 fourth above", four.think(1, 0, 0, 100, 1), -6);
+        is("21 greatest of four", four.think(99, 99, 99, 99, 1), 1);
         is("21 of no truth alone", x.think(0, 0, 0, 1, 1), -6);
         is("21 greatest", x.think(99, 99, 0, 0, 99), 1);
         is("21 second", x.think(0, 1, 0, 0, 1), 2);
@@ -598,6 +605,8 @@ public final class PromisesTest {
         is("34 above", x.enough(10000, 1), -6);
         is("34 below above", x.enough(1, 10000), -6);
         is("34 least", x.enough(-9999, 9999), 0);
+        is("34 greatest", x.enough(9999, 9999), 0);
+        is("34 greatest, not enough", x.enough(9999, 1), -9);
         ShowRoom y = nine(1, 1, 1);
         is("33 dearest", y.chosen(), 1);
         is("34 just what all brings", y.enough(9, 2), 1);
@@ -728,6 +737,7 @@ public final class PromisesTest {
         fraction("40 ends in time", y.time(0, 1, -1, 0), y.time(0, 1, -1, 1), 23, 4);
         fraction("40 nothing left to learn", y.time(1, 0, -1, 0), y.time(1, 0, -1, 1), 7, 2);
         fraction("40 goes on by the sign", y.time(2, 1, -1, 0), y.time(2, 1, -1, 1), 9, 2);
+        fraction("40 three, the third by the sign", y.time(2, 0, 1, 0), y.time(2, 0, 1, 1), 25, 6);
         fraction("40 too dear to begin", nine(9, 9, 9).time(0, 1, 2, 0), nine(9, 9, 9).time(0, 1, 2, 1), 0, 1);
         ShowRoom z = nine(1, 1, 1);
         z.ties(0);
