@@ -58,8 +58,10 @@ public final class OracleTest {
             tellCase(kind == 0 ? 2 : from(1, 4));
             tellLooks();
         }
+        // Every fifth run keeps its case, so that more is told than may be undone.
+        int seldom = r % 5 == 0 ? 1000 : 60;
         for (int c = 0; c < CALLS; c++) {
-            if (below(60) == 0) {
+            if (below(seldom) == 0) {
                 tellCase(below(2) == 0 ? 2 : from(1, 4));
                 tellLooks();
             } else if (below(70) == 0) {
@@ -67,6 +69,10 @@ public final class OracleTest {
             } else {
                 int which = below(faces.size());
                 String name = faces.get(which).getName();
+                if (seldom > 60 && below(4) == 0) {
+                    name = below(2) == 0 ? "second" : "ties";
+                    which = indexOf(name);
+                }
                 if (!name.equals("read") && !(name.equals("feed") && below(3) != 0)) {
                     ask(which, arguments(name, faces.get(which).getParameterTypes()));
                 }
@@ -130,7 +136,7 @@ public final class OracleTest {
             case "prove": return i % 2 == 0 ? price() : from(0, 3) == 0 ? from(0, 100000) : from(1, 9);
             case "test": return i == 0 ? from(0, 12) : below(5) == 0 ? from(-1, 100) : from(0, 6);
             case "set": case "rests": return i == 2 ? from(0, 2) : from(-1, 64);
-            case "enough": return i == 0 ? from(-10000, 10000) / (below(2) == 0 ? 1 : 99) : from(0, 10000) / from(1, 999);
+            case "enough": return below(3) == 0 ? from(1, 6) : i == 0 ? from(-10000, 10000) / (below(2) == 0 ? 1 : 99) : from(0, 10000) / from(1, 999);
             case "hear": return from(-1, 12);
             case "time": return from(-1, 5);
             case "value": return from(-2, 7);
@@ -242,7 +248,7 @@ public final class OracleTest {
         }
         int tests = from(0, 5);
         for (int i = 0; i < tests; i++) {
-            call("test", below(looks), below(2) == 0 ? 0 : from(0, 5));
+            call("test", below(looks), below(3) == 0 ? from(0, 5) : tests % 2);
         }
         if (below(2) == 0) {
             for (int t = 0; t < truths; t++) {

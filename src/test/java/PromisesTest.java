@@ -628,7 +628,20 @@ public final class PromisesTest {
         u.test(0, 0);
         u.test(1, 0);
         is("33 of several fewer", u.chosen(), 2);
-        is("34 of several fewer, though more as bits", u.enough(1, 1), 2);
+        is("34 the one that is enough", u.enough(1, 1), 2);
+        // The first two bring something only together, the third alone, and none costs anything.
+        ShowRoom s = Due.of("t7;t3;a1/0,0/0;a0/9,1/9;");
+        Due.look(s, 2, 40, 20, 20, 40);
+        s.plain(1);
+        s.test(0, 0);
+        s.test(0, 0);
+        is("34 together", s.enough(19, 10), 3);
+        is("34 hardly more", s.enough(1901, 1000), -9);
+        s.test(1, 0);
+        is("34 of several fewer, though more as bits", s.enough(1, 1), 4);
+        s.undo();
+        s.test(1, 1);
+        is("34 less cost, though more of them", s.enough(1, 1), 3);
     }
 
     private static void hearKnows() {
@@ -783,6 +796,33 @@ public final class PromisesTest {
         }
         is("41 the oldest is given up", x.undo(), -3);
         is("41 what it was then", x.ties(0), 1);
+        undoOfManyKinds();
+    }
+
+    private static void undoOfManyKinds() {
+        ShowRoom x = Due.of(COURT);
+        x.second(0, 0, 1);
+        x.second(0, 1, 2);
+        x.plain(1);
+        x.second(1, 0, 3);
+        x.test(0, 5);
+        x.second(1, 1, 4);
+        for (int i = 0; i < 26; i++) {
+            x.ties(1);
+        }
+        is("41 thirty of many kinds", x.count(7), 30);
+        for (int i = 0; i < 26; i++) {
+            x.undo();
+        }
+        is("41 ties back", x.done(1, 1, 0, 0), 1);
+        is("41 place", x.undo() + x.gets(1, 1, 2), 2);
+        is("41 its look is there", x.count(2), 1);
+        is("41 test goes", x.undo() + x.count(3), 1);
+        is("41 other place", x.undo() + x.gets(1, 0, 2), 0);
+        is("41 look goes", x.undo() + x.count(2), 1);
+        is("41 the two oldest are given up", x.undo(), -3);
+        is("41 and stand", x.gets(0, 0, 2), 1);
+        is("41 and stand", x.gets(0, 1, 2), 2);
     }
 
     private static void imageOn() {
