@@ -94,11 +94,9 @@ public final class ShowRoom {
         if (who < 0 || who > 2) {
             return refuse(OTHER) - 1000;
         }
-        if (!scene.open) {
-            return refuse(STATE) - 1000;
-        }
-        if (!scene.hasAct(act) || !scene.hasTruth(truth)) {
-            return refuse(NOBODY) - 1000;
+        int why = scene.lacksAct(act, truth);
+        if (why != 0) {
+            return refuse(why) - 1000;
         }
         int at = act * MOST_TRUTHS + truth;
         if (who == 0) {
@@ -108,11 +106,9 @@ public final class ShowRoom {
     }
 
     public int second(int act, int truth, int v) {
-        if (!scene.open) {
-            return refuse(STATE);
-        }
-        if (!scene.hasAct(act) || !scene.hasTruth(truth)) {
-            return refuse(NOBODY);
+        int why = scene.lacksAct(act, truth);
+        if (why != 0) {
+            return refuse(why);
         }
         if (v < -99) {
             return refuse(BELOW);
@@ -273,68 +269,50 @@ public final class ShowRoom {
     }
 
     public int signs(int look) {
-        if (!scene.open) {
-            return refuse(STATE);
-        }
-        if (!scene.hasLook(look)) {
-            return refuse(NOBODY);
+        int why = scene.lacksLook(look);
+        if (why != 0) {
+            return refuse(why);
         }
         return scene.signCount[look];
     }
 
     public int parts(int look, int truth, int sign) {
-        if (!scene.open) {
-            return refuse(STATE);
-        }
-        if (!scene.hasSign(look, sign) || !scene.hasTruth(truth)) {
-            return refuse(NOBODY);
+        int why = scene.lacksSign(look, sign, truth);
+        if (why != 0) {
+            return refuse(why);
         }
         return scene.partOf(look, truth, sign);
     }
 
     public int leaves(int look, int sign, int truth) {
-        if (!scene.open) {
-            return refuse(STATE);
-        }
-        if (!scene.hasSign(look, sign) || !scene.hasTruth(truth)) {
-            return refuse(NOBODY);
+        int why = scene.lacksSign(look, sign, truth);
+        if (why != 0) {
+            return refuse(why);
         }
         return bench.seeOne(look, sign) ? (int) bench.leastTerm(1, truth) : NONE;
     }
 
     public int does(int look, int sign) {
-        if (!scene.open) {
-            return refuse(STATE);
-        }
-        if (!scene.hasSign(look, sign)) {
-            return refuse(NOBODY);
+        int why = scene.lacksSign(look, sign, 0);
+        if (why != 0) {
+            return refuse(why);
         }
         return bench.seeOne(look, sign) ? bench.choose(1, scene.judgeGets) : NONE;
     }
 
     public long worth(int look, boolean judge, int part) {
-        if (!isPart(part)) {
-            return refuseFar(OTHER);
-        }
-        if (!scene.open) {
-            return refuseFar(STATE);
-        }
-        if (!scene.hasLook(look)) {
-            return refuseFar(NOBODY);
+        int why = isPart(part) ? scene.lacksLook(look) : OTHER;
+        if (why != 0) {
+            return refuseFar(why);
         }
         bench.attendOnly(look);
         return tell(bench.brings(scene.judgeGets, scene.pay(judge)), bench.unit(), part);
     }
 
     public long harm(int look, int part) {
-        if (!isPart(part)) {
-            return refuseFar(OTHER);
-        }
-        if (!scene.open) {
-            return refuseFar(STATE);
-        }
-        if (!scene.hasLook(look)) {
-            return refuseFar(NOBODY);
+        int why = isPart(part) ? scene.lacksLook(look) : OTHER;
+        if (why != 0) {
+            return refuseFar(why);
         }
         bench.attendNone();
         long unseen = bench.brings(scene.judgeGets, scene.judgeGets);
@@ -401,29 +379,18 @@ public final class ShowRoom {
     }
 
     public long edge(int i, int part) {
-        if (!isPart(part)) {
-            return refuseFar(OTHER);
-        }
-        if (!scene.hasTwo()) {
-            return refuseFar(STATE);
-        }
-        line.survey();
-        if (!line.hasEdge(i)) {
-            return refuseFar(NOBODY);
+        int why = lacksEdge(i, part);
+        if (why != 0) {
+            return refuseFar(why);
         }
         return tell(line.above[i], line.below[i], part);
     }
 
     public long value(int i, int part) {
-        if (!isPart(part)) {
-            return refuseFar(OTHER);
-        }
-        if (!scene.hasTwo()) {
-            return refuseFar(STATE);
-        }
-        line.survey();
-        if (i != -1 && !line.hasEdge(i)) {
-            return refuseFar(NOBODY);
+        // Of before (-1) it is the same but for the edge, and 0 is always one.
+        int why = lacksEdge(i == -1 ? 0 : i, part);
+        if (why != 0) {
+            return refuseFar(why);
         }
         int point = i == -1 ? line.edgeCount : i;
         return tell(line.height[point], line.below[point], part);
@@ -471,11 +438,9 @@ public final class ShowRoom {
     // ---- tests and hearers
 
     public int test(int look, int cost) {
-        if (!scene.open) {
-            return refuse(STATE);
-        }
-        if (!scene.hasLook(look)) {
-            return refuse(NOBODY);
+        int why = scene.lacksLook(look);
+        if (why != 0) {
+            return refuse(why);
         }
         if (cost < 0) {
             return refuse(BELOW);
@@ -580,24 +545,17 @@ public final class ShowRoom {
     // ---- what is kept back, days
 
     public int shown(int look) {
-        if (!scene.open) {
-            return refuse(STATE);
-        }
-        if (!scene.hasLook(look)) {
-            return refuse(NOBODY);
+        int why = scene.lacksLook(look);
+        if (why != 0) {
+            return refuse(why);
         }
         return silence.settle(look);
     }
 
     public long law(int look, int part) {
-        if (!isPart(part)) {
-            return refuseFar(OTHER);
-        }
-        if (!scene.open) {
-            return refuseFar(STATE);
-        }
-        if (!scene.hasLook(look)) {
-            return refuseFar(NOBODY);
+        int why = isPart(part) ? scene.lacksLook(look) : OTHER;
+        if (why != 0) {
+            return refuseFar(why);
         }
         return tell(silence.lostByJudge(look, silence.settle(look)), scene.total * WHOLE, part);
     }
@@ -706,6 +664,18 @@ public final class ShowRoom {
         scene.looks++;
         past.keep(TOLD_LOOK, 0, 0);
         return number;
+    }
+
+    /** Why an edge's part can't be told, or 0; the edges are found on the way. */
+    private int lacksEdge(int i, int part) {
+        if (!isPart(part)) {
+            return OTHER;
+        }
+        if (!scene.hasTwo()) {
+            return STATE;
+        }
+        line.survey();
+        return line.hasEdge(i) ? 0 : NOBODY;
     }
 
     private static boolean isPart(int part) {
@@ -934,6 +904,30 @@ public final class ShowRoom {
 
         boolean hasSign(int look, int sign) {
             return hasLook(look) && sign >= 0 && sign < signCount[look];
+        }
+
+        /** Why there is no such look, or 0. */
+        int lacksLook(int look) {
+            if (!open) {
+                return STATE;
+            }
+            return hasLook(look) ? 0 : NOBODY;
+        }
+
+        /** Why there is no such sign or truth, or 0. */
+        int lacksSign(int look, int sign, int truth) {
+            if (!open) {
+                return STATE;
+            }
+            return hasSign(look, sign) && hasTruth(truth) ? 0 : NOBODY;
+        }
+
+        /** Why there is no such act or truth, or 0. */
+        int lacksAct(int act, int truth) {
+            if (!open) {
+                return STATE;
+            }
+            return hasAct(act) && hasTruth(truth) ? 0 : NOBODY;
         }
 
         boolean hasTest(int test) {
