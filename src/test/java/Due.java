@@ -24,6 +24,10 @@ final class Due {
         System.out.println(name + ": " + why);
     }
 
+    int asked() {
+        return asked;
+    }
+
     void end() {
         System.out.println(name + ": " + asked + " asked, " + wrong + " wrong");
         if (wrong != 0) {
