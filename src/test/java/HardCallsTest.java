@@ -25,7 +25,22 @@ public final class HardCallsTest {
                 }
             }
         }
+        lastCall();
         due.end();
+    }
+
+    /** An object is used for 512 calls: the last is answered as the first would be. */
+    private void lastCall() {
+        ShowRoom room = new ShowRoom();
+        Due.feed(room, "t1;a3/4;");
+        room.read();
+        room.plain(0);
+        for (int call = 4; call < 510; call++) {
+            due.is("call " + call, call % 2 == 0 ? room.ties(1) : room.weight(1), call == 4 ? 0 : call % 2 == 0 ? 1 : -1);
+        }
+        due.is("call 510", room.count(11), 253);
+        due.is("call 511", room.count(7), 30);
+        due.is("call 512", room.worth(0, false, 0), 4);
     }
 
     private static ShowRoom room(String told, int fill) {

@@ -1,4 +1,5 @@
 import java.util.ArrayList;
+import java.util.Arrays;
 import java.util.List;
 import java.util.function.Supplier;
 
@@ -156,7 +157,7 @@ public final class SentencesOfPromises1Test extends SentenceCase {
         ShowRoom room = Rooms.rich();
         int[] counts = Twins.refusals(room);
         is("a fault", room.read(), -23);
-        is("nothing is counted", java.util.Arrays.equals(counts, Twins.refusals(room)) ? 1 : 0, 1);
+        is("nothing is counted", Arrays.equals(counts, Twins.refusals(room)) ? 1 : 0, 1);
         for (int what = 0; what <= 7; what++) {
             is("as many as before of " + what, room.count(what), what == 6 ? 0 : Rooms.rich().count(what));
         }
@@ -415,7 +416,7 @@ public final class SentencesOfPromises1Test extends SentenceCase {
         refused("61 under the last", row(Rooms::court, 60, 0, 31, 30), x -> x.look(2), -3);
         refused("120 in all", row(Rooms::court, 60, 60, 0, 0), x -> x.look(2), -3);
         int[] sixties = new int[24];
-        java.util.Arrays.fill(sixties, 60);
+        Arrays.fill(sixties, 60);
         refused("far too long", row(Rooms::four, sixties), x -> x.look(1), -3);
         refused("far too much", row(Rooms::four, sixties), x -> x.look(6), -3);
         refused("far too little", row(Rooms::four, new int[24]), x -> x.look(6), -3);
@@ -596,6 +597,7 @@ public final class SentencesOfPromises1Test extends SentenceCase {
 
     @Says(in = "16", words = "Parts. -3; -1.")
     private void parts() {
+        taken("of one truth", () -> looks(1), x -> x.parts(0, 0, 0), 60);
         taken("first", Rooms::rich, x -> x.parts(0, 0, 0), 20);
         taken("none", Rooms::rich, x -> x.parts(0, 1, 0), 0);
         taken("all", Rooms::rich, x -> x.parts(0, 1, 1), 60);
@@ -618,6 +620,7 @@ public final class SentencesOfPromises1Test extends SentenceCase {
             Due.look(x, 3, 60, 0, 0, 59, 0, 1);
             return x;
         };
+        taken("of one truth", () -> looks(1), x -> x.leaves(0, 0, 0), 1);
         taken("none", never, x -> x.leaves(0, 1, 0), -9);
         taken("none of the other truth", never, x -> x.leaves(0, 1, 1), -9);
         taken("one part is enough", never, x -> x.leaves(0, 2, 1), 1);
@@ -644,6 +647,7 @@ public final class SentencesOfPromises1Test extends SentenceCase {
         room.ties(1);
         is("acquits with ties 1", room.does(0, 1), 0);
         is("is no refusal", room.count(11) + room.count(13), 0);
+        taken("of one truth", () -> looks(1), x -> x.does(0, 0), 0);
     }
 
     @Says(in = "18", words = "-3; -1.")

@@ -511,6 +511,23 @@ public final class SentencesOfPromises25Test extends SentenceCase {
         }
     }
 
+    @Says(in = "41", words = "UNDONE")
+    private void undoneIsSeenNoMore() {
+        for (String told : new String[] {Rooms.ONE, Rooms.COURT, Rooms.BARS, Rooms.FOUR, Rooms.CROSSED}) {
+            ShowRoom room = Due.of(told);
+            for (int look = 0; look < 5; look++) {
+                for (int part = 0; part < 6 * room.count(0); part++) {
+                    room.put(part % 6 == 0 ? 25 : 7);
+                }
+                room.look(6);
+            }
+            for (int look = 0; look < 5; look++) {
+                is("undone", room.undo(), 1);
+            }
+            is("as if never told", Twins.use(room).equals(Twins.use(Due.of(told))) ? 1 : 0, 1);
+        }
+    }
+
     @Says(in = "41", words = "-3 there is none.")
     private void undoRefused() {
         refused("no case", Rooms::begun, x -> x.undo(), -3);

@@ -162,6 +162,7 @@ public final class SentencesOfTermsLaterTest extends SentenceCase {
         is("nothing is the first of these", room.rests(0, 7, 2), 0);
         is("both bars would bring 2: the second one keeps from it", room.rests(1, 2, 0), 2);
         is("first of these", room.rests(1, 2, 1), 0);
+        is("the other way round", room.rests(2, 1, 0), 2);
     }
 
     @Says(in = "IV", words = "A REST: neither gets more by another choice of its own alone.")
@@ -227,6 +228,15 @@ public final class SentencesOfTermsLaterTest extends SentenceCase {
         is("silence brings 1, so does sign 2", three.shown(0), 0);
         three.ties(1);
         is("silence brings 0", three.shown(0), 4);
+        is("till there is none left", allShown().shown(0), 6);
+    }
+
+    /** Silence of both brings 0, each alone 4; sign 0 comes never. */
+    private static ShowRoom allShown() {
+        ShowRoom room = Due.of("t1;t1;a2/4,0/4;a0/4,2/4;a1/0,1/0;");
+        room.ties(1);
+        Due.look(room, 3, 0, 60, 0, 0, 0, 60);
+        return room;
     }
 
     @Says(in = "V", words = "LAW: WORTH to the JUDGE of the LOOK less that of it with SILENCE as one SIGN.")
@@ -241,6 +251,7 @@ public final class SentencesOfTermsLaterTest extends SentenceCase {
         ShowRoom room = Due.of(TOGETHER);
         room.plain(1);
         fraction("one alone is silent", p -> room.law(0, p), 0, 1);
+        fraction("none is silent", p -> allShown().law(0, p), 0, 1);
     }
 
     @Says(in = "V", words = "DAYS: TESTS in an order (1 .. 3, no one twice):")
@@ -345,6 +356,40 @@ public final class SentencesOfTermsLaterTest extends SentenceCase {
         is("there is room again", room.count(7), 1);
         is("for that one", room.undo(), 1);
         is("as it was", room.gets(0, 0, 2), 3);
+        thirtyOfManyKinds();
+    }
+
+    private void thirtyOfManyKinds() {
+        ShowRoom room = Rooms.court();
+        room.second(0, 0, 1);
+        room.second(0, 1, 2);
+        room.plain(1);
+        room.second(1, 0, 3);
+        room.test(0, 5);
+        room.second(1, 1, 4);
+        for (int i = 0; i < 26; i++) {
+            room.ties(1);
+        }
+        is("thirty of many kinds", room.count(7), 30);
+        for (int i = 0; i < 26; i++) {
+            room.undo();
+        }
+        is("ties back", room.done(1, 1, 0, 0), 1);
+        is("nothing else yet", room.gets(1, 1, 2), 4);
+        room.undo();
+        is("the last U back", room.gets(1, 1, 2), 1);
+        is("the test is there", room.count(3), 1);
+        room.undo();
+        is("the test back", room.count(3), 0);
+        is("the other U is there", room.gets(1, 0, 2), 3);
+        room.undo();
+        is("the other U back", room.gets(1, 0, 2), -1);
+        is("the look is there", room.count(2), 1);
+        room.undo();
+        is("the look back", room.count(2), 0);
+        is("the two oldest are not kept", room.undo(), -3);
+        is("and stand", room.gets(0, 0, 2), 1);
+        is("and stand", room.gets(0, 1, 2), 2);
     }
 
     @Says(in = "V", words = "THE IMAGE: CASE, LOOKS, TESTS, U of the SECOND JUDGE, TIES, told THOUGHTS;")
@@ -356,6 +401,8 @@ public final class SentencesOfTermsLaterTest extends SentenceCase {
         room.test(0, 0);
         room.read();
         Due.read(room, Rooms.FOUR);
+        Twins.use(room);
+        room.ties(0);
         is("on", room.on(), 4);
         is("case", room.weight(0), 60);
         is("truths", room.count(0), 2);
@@ -363,13 +410,41 @@ public final class SentencesOfTermsLaterTest extends SentenceCase {
         is("U", room.gets(1, 0, 0), -1);
         is("V", room.gets(1, 0, 1), 1);
         is("looks", room.parts(0, 0, 1), 40);
+        is("looks", room.parts(3, 1, 1), 59);
         is("looks", room.signs(2), 5);
         is("tests", room.count(3), 4);
         fraction("what is tested", p -> room.set(2, p), -33, 5);
         is("U of the second judge", room.gets(1, 0, 2), 5);
         is("told thoughts", room.count(4), 2);
+        fraction("what is told", p -> room.chance(0, 0, p), 1, 3);
         fraction("what is told", p -> room.chance(1, 0, p), 2, 3);
         is("ties", room.ties(0), 1);
+    }
+
+    @Says(in = "V", words = "CASE, LOOKS, TESTS, U of the SECOND JUDGE, TIES, told THOUGHTS;")
+    private void imageOfAFullRoom() {
+        for (int which : new int[] {1, 2}) {
+            ShowRoom room = Rooms.full();
+            room.image();
+            room.read();
+            Twins.use(room);
+            is("on", room.on(), 12);
+            is("twelve looks, six tests, glance " + which, same(which, room), 1);
+        }
+        ShowRoom room = Rooms.full();
+        room.image();
+        room.read();
+        for (int thought = 0; thought < 4; thought++) {
+            room.think(3, 5, 0, 0, 7);
+        }
+        room.on();
+        is("four thoughts", room.made(), -9);
+        fraction("the first", p -> room.chance(0, 0, p), 1, 6);
+        fraction("the last", p -> room.chance(3, 1, p), 1, 2);
+    }
+
+    private static int same(int glance, ShowRoom room) {
+        return Twins.glance(glance, room).equals(Twins.glance(glance, Rooms.full())) ? 1 : 0;
     }
 
     @Says(in = "V", words = "ON from it these are as they were then, and nothing may be UNDONE.")

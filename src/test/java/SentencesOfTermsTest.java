@@ -186,6 +186,15 @@ public final class SentencesOfTermsTest extends SentenceCase {
         is("though it be the same", same.count(2), 0);
         is("ties of the same", same.ties(0), 0);
         is("the second judge of the same", same.gets(1, 0, 2), -1);
+        String[] cases = {Rooms.ONE, Rooms.COURT, Rooms.BARS, Rooms.FOUR, Rooms.FIFTHS, Rooms.CROSSED, Rooms.NINETY};
+        for (String first : cases) {
+            for (String then : cases) {
+                ShowRoom used = Due.of(first);
+                Twins.use(used);
+                Due.read(used, then);
+                is(then + " is as if never behind " + first, Twins.use(used).equals(Twins.use(Due.of(then))) ? 1 : 0, 1);
+            }
+        }
     }
 
     @Says(in = "I", words = "A THOUGHT: weights of TRUTHS, whole numbers, 0 or more, not all 0,")
@@ -289,6 +298,18 @@ public final class SentencesOfTermsTest extends SentenceCase {
         is("a thirteenth", room.plain(0), -6);
         is("there are twelve", room.count(2), 12);
         is("the first is as it was", room.signs(0), 1);
+        room.undo();
+        is("all as the twelfth", room.plain(1), 11);
+        is("its last part", room.parts(11, 3, 3), 60);
+        room.undo();
+        is("a bar as the twelfth", room.bar(3), 11);
+        is("its last part", room.parts(11, 3, 1), 60);
+        room.undo();
+        is("a mix as the twelfth", room.mix(2, 2, 6), 11);
+        is("its last sign", room.signs(11), 6);
+        room.undo();
+        is("a meld as the twelfth", room.meld(5, 0, 5), 11);
+        is("its last sign", room.signs(11), 5);
         is("no sign more than there are", room.parts(5, 0, 6), -1);
     }
 
@@ -554,7 +575,10 @@ public final class SentencesOfTermsTest extends SentenceCase {
             + " is not all the same ACT: rising.")
     private void edges() {
         is("none between", Due.of("t1;t1;a3/1,1/1;a1/1,0/9;").edges(), 2);
-        is("another act at an end alone", Due.of("t1;t1;a3/1,1/1;a1/1,1/9;").edges(), 2);
+        is("another act at 1 alone", Due.of("t1;t1;a3/1,1/1;a1/1,1/9;").edges(), 2);
+        is("another act at 0 alone", Due.of("t1;t1;a1/1,3/1;a1/9,1/9;").edges(), 2);
+        is("another act beyond 1", Due.of("t1;t1;a9/0,9/5;a8/5,8/0;a-90/0,8/0;").edges(), 2);
+        is("another act below 0", Due.of("t1;t1;a9/0,9/5;a8/5,8/0;a8/0,-90/0;").edges(), 2);
         is("one act", Due.of("t1;t1;a3/1,1/1;").edges(), 2);
         ShowRoom point = Due.of("t1;t1;a2/0,0/0;a0/0,2/0;a1/5,1/6;");
         is("an act that is done at one x alone", point.edges(), 3);
@@ -563,6 +587,7 @@ public final class SentencesOfTermsTest extends SentenceCase {
         is("with ties 1 not done even there", point.edges(), 3);
         ShowRoom touch = Due.of("t1;t1;a1/0,1/0;a0/5,2/5;a2/5,0/5;");
         is("lines that cross in one x", touch.edges(), 3);
+        is("three lines in one x, where the third is done alone", Due.of("t1;t1;a3/0,0/0;a0/0,3/0;a2/5,1/6;").edges(), 3);
         ShowRoom byV = Due.of("t1;t1;a0/2,0/0;a0/0,0/2;");
         is("another act by V alone", byV.edges(), 3);
         ShowRoom rising = Rooms.fifths();
@@ -571,6 +596,26 @@ public final class SentencesOfTermsTest extends SentenceCase {
             int fifth = i;
             fraction("rising", p -> rising.edge(fifth, p), fifth, 5);
         }
+    }
+
+    @Says(in = "III", words = "0, 1, and all x between")
+    private void manyCrossings() {
+        ShowRoom room = Due.of(Rooms.CROSSED);
+        long[] above = {0, 2, 2, 3, 29, 17, 1};
+        long[] below = {1, 9, 3, 4, 36, 20, 1};
+        is("seven", room.edges(), 7);
+        for (int i = 0; i < 7; i++) {
+            int edge = i;
+            fraction("edge " + i, p -> room.edge(edge, p), above[i], below[i]);
+        }
+        for (int again = 0; again < 4; again++) {
+            Due.read(room, Rooms.FIFTHS);
+            is("another case", room.edges(), 6);
+            Due.read(room, "t1;t1;a60/0,1/1;a50/2,9/2;a40/3,13/4;a30/9,17/6;a1/7,60/9;");
+            room.edges();
+        }
+        Due.read(room, Rooms.CROSSED);
+        is("seven again", room.edges(), 7);
     }
 
     @Says(in = "III", words = "BEST LOOK: of all pairs l, r among EDGES and BEFORE, with l not above BEFORE, r not below it,"
@@ -646,6 +691,8 @@ public final class SentencesOfTermsTest extends SentenceCase {
         is("more than value at 1", court.prove(0, 1, 2, 1), -9);
         is("too low at 1/2", court.prove(0, 1, 199997, 99999), 1);
         is("above top", court.prove(0, 1, 199999, 99999), 101);
+        is("6/5, top is 4/5", court.prove(0, 1, 3, 1), 101);
+        is("4/3, top is 4/5", court.prove(0, 1, 10, 3), 101);
         ShowRoom flat = Due.of("t3;t1;a0/1,0/1;a0/0,0/4;");
         is("on top, but too low at 0", flat.prove(0, 1, 7, 1), 0);
     }
