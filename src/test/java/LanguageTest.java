@@ -4,44 +4,42 @@ import java.lang.reflect.Method;
 import java.lang.reflect.Modifier;
 import java.nio.file.Files;
 import java.nio.file.Path;
+import java.util.List;
 import java.util.Set;
 import java.util.TreeSet;
 import java.util.regex.Matcher;
 import java.util.regex.Pattern;
 
-/** What of LANGUAGE.md can be seen from outside: the face, the words, the sizes. */
+/** What of LANGUAGE.md can be seen from outside or from the program's text, rule by rule. */
 public final class LanguageTest {
-    private static final String FACE = "int feed(int,long) int read() int weight(int) int gets(int,int,int) "
-            + "int second(int,int,int) int ties(int) int done(int,int,int,int) int put(int) int look(int) int plain(int) "
-            + "int bar(int) int mix(int,int,int) int meld(int,int,int) int signs(int) int parts(int,int,int) "
-            + "int leaves(int,int,int) int does(int,int) long worth(int,boolean,int) long harm(int,int) "
-            + "int think(int,int,int,int,int) int forget() int made() long chance(int,int,int) int edges() "
-            + "long edge(int,int) long value(int,int) long best(int,int) int corners() int prove(int,int,int,int) "
-            + "int test(int,int) long set(int,int) int chosen() int enough(int,int) long hear(int,int,int) "
-            + "long knows(int,int,boolean,int) int rests(int,int,int) int shown(int) long law(int,int) "
-            + "long time(int,int,int,int) int undo() int image() int on() int count(int)";
-    private static final String[] BANNED = {"\\bthrow\\b", "\\bthrows\\b", "\\btry\\b", "\\bcatch\\b", "\\bsynchronized\\b",
-        "\\bassert\\b", "->", "::", "\\bimport\\b", "\\bpackage\\b", "\\bdouble\\b", "\\bfloat\\b", "static\\s*\\{",
-        "@", "\\bequals\\b", "\\bhashCode\\b", "\\btoString\\b", "Exact\\b", "\\bprotected\\b", "\\bvar\\b"};
+    /** What stands in no place of the program, by the rules that rule it out. */
+    private static final String[][] RULED_OUT = {
+        {"2", "->", "::", "\\bnew \\w+\\([^)]*\\) *\\{", "(?m)^ {8,}(?:final )?class\\b"},
+        {"3", "\\bdouble\\b", "\\bfloat\\b", "\\[\\] *\\[", "\\bvar\\b"},
+        {"4", "\\bimport\\b", "\\bpackage\\b", "@", "Exact\\b"},
+        {"5", "static *\\{", "(?m)^ +(?:private |public )?static (?!final)[^(]*;"},
+        {"6", "\\bthrows?\\b", "\\btry\\b", "\\bcatch\\b", "\\bsynchronized\\b", "\\bassert\\b", "\\bequals\\b",
+            "\\bhashCode\\b", "\\btoString\\b", "\\binstanceof\\b"},
+        {"9", "while *\\(true\\)", "for *\\([^;]*; *;"},
+        {"10", "\""},
+    };
+    private static final Set<String> LIBRARY = Set.of("Integer.bitCount", "Math.abs", "Math.max", "Math.min", "System.arraycopy");
+    private static final List<Class<?>> PLAIN = List.of(int.class, long.class, boolean.class, int[].class, long[].class);
     private static final Due DUE = new Due("LanguageTest");
 
     public static void main(String[] args) throws Exception {
         Path root = Path.of(args.length > 0 ? args[0] : ".");
-        words(Files.readString(root.resolve("src/main/java/ShowRoom.java")));
-        face();
-        Set<String> names = new TreeSet<>();
-        for (Method m : ShowRoom.class.getDeclaredMethods()) {
-            if (Modifier.isPublic(m.getModifiers())) {
-                names.add(m.getName());
-            }
-        }
-        members(ShowRoom.class, names);
+        String text = Files.readString(root.resolve("src/main/java/ShowRoom.java"));
+        face(Files.readString(root.resolve("../shared/DOC.md")), text);
+        words(text, new Source(text));
+        sizes(new Source(text));
+        members(ShowRoom.class);
         Class<?>[] inside = ShowRoom.class.getDeclaredClasses();
-        holds("at most twelve classes", inside.length <= 12);
+        holds("11: at most twelve classes", inside.length < 12);
         for (Class<?> c : inside) {
-            holds(c + " is static", Modifier.isStatic(c.getModifiers()));
-            holds(c + " is not public", !Modifier.isPublic(c.getModifiers()));
-            members(c, names);
+            holds("1: " + c + " is static", Modifier.isStatic(c.getModifiers()));
+            holds("1: " + c + " is not public", !Modifier.isPublic(c.getModifiers()));
+            members(c);
         }
         DUE.end();
     }
@@ -50,70 +48,82 @@ public final class LanguageTest {
         DUE.is(what, so ? 1 : 0, 1);
     }
 
-    private static void words(String source) {
-        String bare = source.replaceAll("(?s)/\\*.*?\\*/", " ").replaceAll("//[^\\n]*", " ");
-        for (String word : BANNED) {
-            holds("the source has no " + word, !Pattern.compile(word).matcher(bare).find());
+    /** Rule 1: the document's face, word for word, and nothing else that can be seen. */
+    private static void face(String doc, String text) {
+        Matcher line = Pattern.compile("(?m)^ {4}(public .*\\));$").matcher(doc);
+        int lines = 0;
+        while (line.find()) {
+            lines++;
+            holds("1: the program has " + line.group(1), text.contains("\n    " + line.group(1) + " {\n"));
         }
-        Matcher system = Pattern.compile("System\\.(\\w+)").matcher(bare);
-        while (system.find()) {
-            holds("System." + system.group(1), system.group(1).equals("arraycopy"));
-        }
-        Matcher made = Pattern.compile("\\bnew\\s+(\\w+)").matcher(bare);
-        int count = 0;
-        while (made.find()) {
-            count++;
-        }
-        // Whatever is made stands in a field's first value or in the constructor, never in a call.
-        Matcher call = Pattern.compile("(?m)^ {8,}(?!(private )?final|\\w+ = new|this).*\\bnew\\b").matcher(bare);
-        holds("objects are made with the room alone", count > 0 && !call.find());
-        for (char c : source.toCharArray()) {
-            if (c > 127) {
-                DUE.fail("a sign above 127");
-            }
-        }
-    }
-
-    private static void face() {
-        Set<String> due = new TreeSet<>();
-        for (String one : FACE.split("(?<=\\)) ")) {
-            due.add(one);
-        }
-        Set<String> there = new TreeSet<>();
+        int seen = 0;
         for (Method m : ShowRoom.class.getDeclaredMethods()) {
-            if (Modifier.isPublic(m.getModifiers())) {
-                StringBuilder told = new StringBuilder(m.getReturnType() + " " + m.getName() + "(");
-                for (int i = 0; i < m.getParameterCount(); i++) {
-                    told.append(i > 0 ? "," : "").append(m.getParameterTypes()[i]);
-                }
-                there.add(told.append(")").toString());
-                holds(m + " is of the object", !Modifier.isStatic(m.getModifiers()));
-            } else {
-                holds(m + " is private", Modifier.isPrivate(m.getModifiers()));
-            }
+            boolean isPublic = Modifier.isPublic(m.getModifiers());
+            holds("1: " + m + " is of the face or private", isPublic || Modifier.isPrivate(m.getModifiers()));
+            holds("1: " + m + " is of the object", !isPublic || !Modifier.isStatic(m.getModifiers()));
+            seen += isPublic ? 1 : 0;
         }
-        holds("the face is " + due + ", there is " + there, due.equals(there));
+        DUE.is("1: the face's methods and its constructor", lines, 44);
+        DUE.is("1: methods that can be seen", seen, 43);
         int mods = ShowRoom.class.getModifiers();
-        holds("public and final", Modifier.isPublic(mods) && Modifier.isFinal(mods));
+        holds("1: public and final", Modifier.isPublic(mods) && Modifier.isFinal(mods));
         Constructor<?>[] made = ShowRoom.class.getDeclaredConstructors();
-        holds("one public constructor", made.length == 1 && Modifier.isPublic(made[0].getModifiers())
+        holds("1: one public constructor", made.length == 1 && Modifier.isPublic(made[0].getModifiers())
                 && made[0].getParameterCount() == 0);
         for (Field f : ShowRoom.class.getDeclaredFields()) {
-            holds(f + " is private", Modifier.isPrivate(f.getModifiers()));
+            holds("1: " + f + " is private", Modifier.isPrivate(f.getModifiers()));
         }
     }
 
-    private static void members(Class<?> c, Set<String> names) {
+    private static void words(String text, Source source) {
+        for (String[] rule : RULED_OUT) {
+            for (int i = 1; i < rule.length; i++) {
+                holds(rule[0] + ": the program has no " + rule[i], !Pattern.compile(rule[i]).matcher(source.bare).find());
+            }
+        }
+        for (String used : source.all("\\b([A-Z][a-z]\\w*\\.\\w+)")) {
+            holds("4: the library's " + used, LIBRARY.contains(used));
+        }
+        // Whatever is made stands in a field's first value or in the constructor, never in a call.
+        Set<String> made = source.all("(?m)^ {8,}(?!(?:private )?final|\\w+ = new|this)(.*\\bnew\\b.*)$");
+        holds("12: objects are made with the room alone, not by " + made, made.isEmpty());
+        holds("4: signs up to 127 alone", text.chars().allMatch(c -> c <= 127));
+    }
+
+    private static void sizes(Source source) {
+        holds("methods are found: " + source.bodies.size(), source.bodies.size() > 100);
+        holds("no name is used twice: " + source.namedTwice, source.namedTwice.isEmpty());
+        for (String name : source.bodies.keySet()) {
+            long lines = source.bodies.get(name).lines().count();
+            holds("11: " + name + " has " + lines + " lines", lines <= 60);
+            int depth = source.depth(name);
+            holds("11: from " + name + " calls go " + depth + " deep", depth <= 8);
+        }
+    }
+
+    private static void members(Class<?> c) {
+        Set<String> face = new TreeSet<>();
+        for (Method m : ShowRoom.class.getMethods()) {
+            face.add(m.getName());
+        }
         int own = 0;
         for (Field f : c.getDeclaredFields()) {
             boolean isStatic = Modifier.isStatic(f.getModifiers());
             own += isStatic ? 0 : 1;
-            holds(f + " is final, if static", !isStatic || Modifier.isFinal(f.getModifiers()));
+            holds("5: " + f + " is final, if static", !isStatic || Modifier.isFinal(f.getModifiers()));
+            holds("3: " + f + " is plain or of an own class", isPlain(f.getType()));
         }
-        holds(c + " has at most twenty fields", own <= 20);
+        holds("11: " + c + " has at most twenty fields", own <= 20);
         for (Method m : c.getDeclaredMethods()) {
-            holds(m + " takes at most seven", m.getParameterCount() <= 7);
-            holds(m + " bears no public name", Modifier.isPublic(m.getModifiers()) || !names.contains(m.getName()));
+            holds("11: " + m + " takes at most seven", m.getParameterCount() <= 7);
+            holds("1: " + m + " bears no name of the face", Modifier.isPublic(m.getModifiers()) || !face.contains(m.getName()));
+            for (Class<?> type : m.getParameterTypes()) {
+                holds("3: " + m + " takes plain numbers or own classes", isPlain(type));
+            }
         }
+    }
+
+    private static boolean isPlain(Class<?> type) {
+        return PLAIN.contains(type) || type.getDeclaringClass() == ShowRoom.class;
     }
 }
